@@ -1160,14 +1160,10 @@ public final class FairHall {
                 kind = STOP;
                 behind = start + 1;
             } else {
-                stepOverRun();
+                kind = WORD;
+                behind = endOfRun('a', 'z');
             }
-        }
-
-        private void stepOverRun() {
-            kind = WORD;
-            behind = endOfRun('a', 'z');
-            if (behind == start) {
+            if (kind == WORD && behind == start) {
                 kind = NUMBER;
                 behind = endOfRun('0', '9');
                 if (behind == start || behind - start > MOST_DIGITS) {

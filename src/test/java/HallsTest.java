@@ -71,6 +71,18 @@ public final class HallsTest {
         C.due("laid(1)", x, x.laid(1), 0, 0);
         // 0 into 0; 1 into 0 and 1, neither; 0 into 1; 1 into 0.
         C.due("tries()", x, x.tries(), 5, 0);
+        // The last two of 24 boards go back too: 22 into 0; 23 into 0 and 1, neither; 22 into 1; 23 into 0.
+        FairHall y = new FairHall();
+        for (int i = 0; i < 22; i++) {
+            y.board(0, 0, 0, 0, false);
+        }
+        y.board(0, 0, 0, 1, false);
+        y.board(0, 0, 0, 9, false);
+        y.hall(24, 9, 0);
+        y.hall(24, 1, 0);
+        C.due("laid(22)", y, y.laid(22), 1, 0);
+        C.due("laid(23)", y, y.laid(23), 0, 0);
+        C.due("tries() of 24", y, y.tries(), 27, 0);
     }
 
     private static void limitsOfAHall() {

@@ -217,6 +217,48 @@ public final class LooksTest {
         y.looks(1);
         C.due("most looks first", y, y.plan(), 0, 0);
         C.due("judge 0 leaves board 0", y.sees(0, 0), 0);
+        exchangeOfThree();
+    }
+
+    /**
+     * Fields 0, 1, 2 and one look. Board 1 can have judge 0 or 2, board 2 judge 1 or 2; board 0 judge 0, 1 or 2.
+     * Judge 0 goes to board 0, so that board 1 has judge 2 and board 2 judge 1.
+     */
+    private static void exchangeOfThree() {
+        FairHall x = new FairHall();
+        x.board(0, 0, 0, 0, false);
+        x.board(1, 0, 0, 0, false);
+        x.board(2, 0, 0, 0, false);
+        x.judge(3, NONE, 1);
+        x.judge(5, NONE, 1);
+        x.judge(7, NONE, 1);
+        x.looks(1);
+        C.due("plan of three", x, x.plan(), 0, 0);
+        int[] judgeOf = {0, 2, 1};
+        for (int board = 0; board < 3; board++) {
+            for (int judge = 0; judge < 3; judge++) {
+                C.due("sees(" + judge + ", " + board + ") of three", x.sees(judge, board),
+                        judgeOf[board] == judge ? 1 : 0);
+            }
+        }
+        // Two looks, six in all, of which four can be: boards 0 and 1 take what they may.
+        FairHall y = new FairHall();
+        y.board(1, 0, 0, 0, false);
+        y.board(0, 0, 0, 0, false);
+        y.board(2, 0, 0, 0, false);
+        y.judge(2, NONE, 2);
+        y.judge(7, NONE, 1);
+        y.judge(5, NONE, 2);
+        y.looks(2);
+        C.due("plan of scarce judges", y, y.plan(), 2, 0);
+        int[][] seers = {{1, 1, 0}, {0, 0, 1}, {0, 0, 1}};
+        for (int board = 0; board < 3; board++) {
+            for (int judge = 0; judge < 3; judge++) {
+                C.due("sees(" + judge + ", " + board + ") of scarce judges", y.sees(judge, board),
+                        seers[board][judge]);
+            }
+            C.due("holds(" + board + ") of scarce judges", y.holds(board), 1);
+        }
     }
 
     private static void sees() {

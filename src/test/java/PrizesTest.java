@@ -73,6 +73,7 @@ public final class PrizesTest {
         good("prize field0age1school2seen3best4;", 1);
         good("prize seen 12 school 15 age 3 field 7 best 24 alone;", 1);
         good("prize field 000 best 001 ;", 1);
+        good("prize school 0 age 0 seen 1 best 1;", 1);
         good("prize best 1;".repeat(8), 8);
     }
 
@@ -131,6 +132,8 @@ public final class PrizesTest {
         bad("prize best 1; alone", 2, 14);
         bad("prizes best 1;", 2, 0);
         bad("priz best 1;", 2, 0);
+        bad("qrize best 1;", 2, 0);
+        bad("prizd best 1;", 2, 0);
         bad("prize bes 1;", 2, 6);
         bad("prize bestt 1;", 2, 6);
         bad("prize fields 1 best 1;", 2, 6);
@@ -141,6 +144,14 @@ public final class PrizesTest {
         C.dueNone("a text that ends ahead of the tape's end", x, x.prizes(12), 7);
         C.due("its fault", x.fault(0), 2);
         C.due("its place is the text's length", x.fault(1), 12);
+        // What lies behind the text on the tape makes no token longer.
+        Check.feed(x, "prize best 1 alone;");
+        C.dueNone("a word cut off", x, x.prizes(15), 7);
+        C.due("its place", x.fault(1), 13);
+        Check.feed(x, "prize best 1234;");
+        C.dueNone("a number cut off", x, x.prizes(13), 7);
+        C.due("its fault", x.fault(0), 2);
+        C.due("its place", x.fault(1), 13);
     }
 
     private static void ninth() {

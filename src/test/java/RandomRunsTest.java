@@ -1,6 +1,9 @@
 import java.util.Random;
 
-/** Runs of calls by fixed seeds: FairHall must answer each as the naive model does. */
+/**
+ * Runs of calls by fixed seeds: FairHall must answer each as the naive model does. Some objects are used for
+ * more than 512 calls, where the document leaves the answers free; FairHall goes on as before there.
+ */
 public final class RandomRunsTest {
     private static final Check C = new Check("RandomRunsTest");
     private static final int RUNS = 200;
