@@ -677,8 +677,8 @@ public final class FairHall {
     private static final class Known {
         private static final int MOST_IN_HEAP = 5;
 
-        final int[] points = new int[JUDGES * BOARDS];
         final int[] heapOf = new int[JUDGES];
+        private final int[] points = new int[JUDGES * BOARDS];
         private final int[] toldOn = new int[JUDGES * BOARDS];
 
         void lookBack(Marks marks, int day) {
