@@ -1,4 +1,5 @@
 import java.nio.charset.StandardCharsets;
+import java.util.function.IntUnaryOperator;
 
 /** What the tests of the project share: counting what was due, and texts laid on the tape. */
 final class Check {
@@ -41,6 +42,39 @@ final class Check {
         due(call, x, got, 0);
         due("upper() behind " + call, x.upper(), upper);
         due("lower() behind " + call, x.lower(), lower);
+    }
+
+    /** The status of a call that was made; NONE must go with another status than 0, and with no other. */
+    int statusOf(FairHall x, int answer) {
+        due("an answer of NONE beside status() " + x.status(), answer == FairHall.NONE, x.status() != 0);
+        return x.status();
+    }
+
+    int statusOf(FairHall x, boolean answer) {
+        due("an answer of false beside status() " + x.status(), !answer, x.status() != 0);
+        return x.status();
+    }
+
+    /**
+     * A number from the least to the greatest is taken; one below and one above, the ends of int, and numbers
+     * that would fit if their high bits were cut off are refused.
+     */
+    void range(String what, int least, int greatest, int refused, IntUnaryOperator statusAt) {
+        for (int value : new int[] {least, Math.min(least + 1, greatest), Math.max(greatest - 1, least), greatest}) {
+            due("status of " + what + " " + value, statusAt.applyAsInt(value), 0);
+        }
+        refusedOutside(what, least, greatest, refused, statusAt);
+    }
+
+    void refusedOutside(String what, int least, int greatest, int refused, IntUnaryOperator statusAt) {
+        int[] outside = {
+            least - 1, least - 2, greatest + 1, greatest + 2, Integer.MIN_VALUE, Integer.MIN_VALUE + 1,
+            Integer.MAX_VALUE, Integer.MAX_VALUE - 1, greatest + (1 << 16), least - (1 << 16),
+            greatest + (1 << 24), Integer.MIN_VALUE + greatest,
+        };
+        for (int value : outside) {
+            due("status of " + what + " " + value, statusAt.applyAsInt(value), refused);
+        }
     }
 
     void finish() {
