@@ -10,6 +10,7 @@ public final class GivenEdgesTest {
         placeFrom0On();
         asKnownOnADay();
         noPlaceAheadOfNoDay();
+        behindTheLastPlaceOnNoSuchDay();
         greatIsAnyHeap();
         noPrizeAheadOfGreat();
         boardsWithMarksThatCount();
@@ -87,6 +88,20 @@ public final class GivenEdgesTest {
         C.dueNone("the least place on no such day", x, x.given(0, MIN, MIN), 1);
         C.dueNone("a place that is there, on no such day", x, x.given(0, 0, 1000), 2);
         C.dueNone("nothing that is there", x, x.given(MAX, MIN, MAX), 1);
+    }
+
+    /** How many places there are is known on a day alone, and by fair: without these 2 and 9 are told, not 1. */
+    private static void behindTheLastPlaceOnNoSuchDay() {
+        FairHall x = marked(5);
+        Check.prizes(x, "prize best 1;");
+        C.dueNone("behind the last place", x, x.given(0, 1, 0), 1);
+        C.dueNone("behind the last place on no such day", x, x.given(0, 1, 1000), 2);
+        for (int judge = 1; judge <= 5; judge++) {
+            x.judge(0, 0, 0);
+            x.mark(judge, 0, 50, 9);
+        }
+        C.dueNone("behind the last place on the day ahead of a great heap", x, x.given(0, 1, 8), 1);
+        C.dueNone("behind the last place with a great heap", x, x.given(0, 1, 9), 9);
     }
 
     private static void greatIsAnyHeap() {
